@@ -52,6 +52,32 @@ final class Checks {
         due(what, "throws ArithmeticException", call);
     }
 
+    /** A gallery with a room of each warmth. */
+    static AvalancheGallery withRooms(int... warmths) {
+        AvalancheGallery gallery = new AvalancheGallery();
+        for (int warmth : warmths) {
+            gallery.addRoom(warmth);
+        }
+        return gallery;
+    }
+
+    /** A gallery with rooms, and with exhibits of one limit in the first one. */
+    static AvalancheGallery withExhibits(int count, int limit, int... warmths) {
+        AvalancheGallery gallery = withRooms(warmths);
+        for (int exhibit = 0; exhibit < count; exhibit++) {
+            gallery.addExhibit(0, limit);
+        }
+        return gallery;
+    }
+
+    /** A gallery in which each kind of change can be made; it took five changes. */
+    static AvalancheGallery prepared() {
+        AvalancheGallery gallery = withExhibits(1, 1, 5, 0);
+        gallery.setLeg(0, 1, 5, 5);
+        gallery.ask(0, 30, 31, 5);
+        return gallery;
+    }
+
     /** Feeds a text into the input buffer. */
     static void feed(AvalancheGallery gallery, String text) {
         for (int index = 0; index < text.length(); index++) {

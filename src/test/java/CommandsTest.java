@@ -17,23 +17,13 @@ public final class CommandsTest {
         Checks.finish("CommandsTest");
     }
 
-    private static AvalancheGallery prepared() {
-        AvalancheGallery gallery = new AvalancheGallery();
-        gallery.addRoom(5);
-        gallery.addRoom(0);
-        gallery.setLeg(0, 1, 5, 5);
-        gallery.addExhibit(0, 1);
-        gallery.ask(0, 30, 31, 5);
-        return gallery;
-    }
-
     private static String execute(AvalancheGallery gallery, String text) {
         Checks.feed(gallery, text);
         return Checks.answerOf(gallery::execute);
     }
 
     private static void dueError(String text, int position) {
-        AvalancheGallery gallery = prepared();
+        AvalancheGallery gallery = Checks.prepared();
         Checks.due("54 " + text, "throws IllegalArgumentException", () -> execute(gallery, text));
         Checks.due("55 " + text, position, gallery::errorPosition);
         Checks.missing("56 " + text, gallery::failedCommand);
@@ -69,6 +59,7 @@ public final class CommandsTest {
         Checks.due("21 limit", 2, () -> gallery.limit(0));
         Checks.due("54 drop", "2", () -> execute(gallery, "drop 0 1,2+3;drop 0 1,1+12"));
         Checks.due("23 grains", 15, () -> gallery.grains(0));
+        Checks.due("54 x comes before y", "0300/3130/1210/0100", () -> Checks.pileOf(gallery, 0));
         Checks.due("54 day", "1", () -> execute(gallery, "day 04"));
         Checks.due("36 day", 4, gallery::day);
         Checks.due("30 melted", 4, () -> gallery.melted(0));
@@ -83,6 +74,9 @@ public final class CommandsTest {
         Checks.due("43 day 7", true, () -> gallery.isLent(0, 7));
         Checks.due("43 day 12", true, () -> gallery.isLent(0, 12));
         Checks.due("43 day 13", false, () -> gallery.isLent(0, 13));
+        Checks.due("54 of the second exhibit", "3", () -> execute(gallery, "pile 1*0;ask 1 5-5+6;take 1"));
+        Checks.due("36 take passes no day", 4, gallery::day);
+        Checks.due("44 income", 40, gallery::income);
         Checks.missing("55 none was kept", gallery::errorPosition);
         Checks.missing("56 none was kept", gallery::failedCommand);
     }
@@ -146,7 +140,7 @@ public final class CommandsTest {
     }
 
     private static void allOrNone() {
-        AvalancheGallery gallery = prepared();
+        AvalancheGallery gallery = Checks.prepared();
         Checks.due("54 the fourth fails", "throws UnsupportedOperationException",
                 () -> execute(gallery, "room 1;drop 0 0,0+9;day 9;take 1;day 1"));
         Checks.due("56 failedCommand", 3, gallery::failedCommand);
@@ -170,7 +164,7 @@ public final class CommandsTest {
     }
 
     private static void dueFailure(String text, int failed) {
-        AvalancheGallery gallery = prepared();
+        AvalancheGallery gallery = Checks.prepared();
         Checks.due("54 " + text, "throws UnsupportedOperationException", () -> execute(gallery, text));
         Checks.due("56 " + text, failed, gallery::failedCommand);
         Checks.due("57 " + text, 5, gallery::undoCount);
@@ -204,7 +198,7 @@ public final class CommandsTest {
     }
 
     private static void keptRefusal() {
-        AvalancheGallery gallery = prepared();
+        AvalancheGallery gallery = Checks.prepared();
         Checks.due("54 no such room", "throws UnsupportedOperationException", () -> execute(gallery, "send 0>7"));
         Checks.missing("45 is no refusal", gallery::refusalReason);
         Checks.due("54 no way", "throws UnsupportedOperationException",
@@ -223,7 +217,7 @@ public final class CommandsTest {
     }
 
     private static void longestTexts() {
-        AvalancheGallery gallery = prepared();
+        AvalancheGallery gallery = Checks.prepared();
         Checks.due("54 ten commands", "10", () -> execute(gallery,
                 "day 1;day 1;day 1;day 1;day 1;day 1;day 1;day 1;day 1;day 12"));
         Checks.due("36 day", 21, gallery::day);
@@ -235,7 +229,7 @@ public final class CommandsTest {
     }
 
     private static void asOneChange() {
-        AvalancheGallery gallery = prepared();
+        AvalancheGallery gallery = Checks.prepared();
         execute(gallery, "room 1;day 3;drop 0 0,0+3;take 0");
         Checks.due("58 one change", 6, gallery::undoCount);
         Checks.due("57 undo", 5, gallery::undo);

@@ -16,14 +16,10 @@ public final class CouriersTest {
 
     /** Rooms of warmth 0 in a row, with legs of warmth 2, 5 and 9; one exhibit in room 0. */
     private static AvalancheGallery withRow(int limit) {
-        AvalancheGallery gallery = new AvalancheGallery();
-        for (int room = 0; room < 5; room++) {
-            gallery.addRoom(0);
-        }
+        AvalancheGallery gallery = Checks.withExhibits(1, limit, 0, 0, 0, 0, 0);
         gallery.setLeg(0, 1, 10, 2);
         gallery.setLeg(1, 2, 10, 5);
         gallery.setLeg(2, 3, 10, 9);
-        gallery.addExhibit(0, limit);
         return gallery;
     }
 
@@ -163,6 +159,10 @@ public final class CouriersTest {
         gallery.send(0, 3);
         dueLeast(gallery, 2, 1);
         dueLeast(gallery, 0, 0);
+        gallery.removeLeg(2, 3);
+        gallery.removeLeg(3, 4);
+        Checks.missing("34 no way any more", () -> gallery.leastPassedByRounds(0, 2));
+        Checks.missing("33 no way any more", () -> gallery.leastPassed(0, 2));
     }
 
     private static void passDays() {

@@ -15,12 +15,7 @@ public final class LoansTest {
     }
 
     private static AvalancheGallery withExhibits(int count) {
-        AvalancheGallery gallery = new AvalancheGallery();
-        gallery.addRoom(0);
-        for (int exhibit = 0; exhibit < count; exhibit++) {
-            gallery.addExhibit(0, 0);
-        }
-        return gallery;
+        return Checks.withExhibits(count, 0, 0);
     }
 
     /** A gallery with one exhibit; each loan is a first day, a last day and a fee. */

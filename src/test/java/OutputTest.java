@@ -12,13 +12,7 @@ public final class OutputTest {
     }
 
     private static AvalancheGallery withExhibits(int count) {
-        AvalancheGallery gallery = new AvalancheGallery();
-        gallery.addRoom(0);
-        gallery.addRoom(0);
-        for (int exhibit = 0; exhibit < count; exhibit++) {
-            gallery.addExhibit(0, 0);
-        }
-        return gallery;
+        return Checks.withExhibits(count, 0, 0, 0);
     }
 
     private static void dueOutput(String what, AvalancheGallery gallery, String output, int length) {

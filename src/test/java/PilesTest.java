@@ -15,13 +15,7 @@ public final class PilesTest {
     }
 
     private static AvalancheGallery withExhibits(int count) {
-        AvalancheGallery gallery = new AvalancheGallery();
-        gallery.addRoom(9);
-        gallery.addRoom(0);
-        for (int exhibit = 0; exhibit < count; exhibit++) {
-            gallery.addExhibit(0, 5);
-        }
-        return gallery;
+        return Checks.withExhibits(count, 5, 9, 0);
     }
 
     /** A gallery with one exhibit whose rows are the words of the text. */
@@ -165,6 +159,10 @@ public final class PilesTest {
         Checks.due("24 lasts " + rows, lasts, () -> gallery.lasts(0));
         Checks.due("25 lastsByToppling " + rows, lasts, () -> gallery.lastsByToppling(0));
         Checks.due("25 the pile stays", rows, () -> Checks.pileOf(gallery, 0));
+        gallery.topplingsIfByRounds(0, 1, 1, 40);
+        Checks.due("24 again " + rows, lasts, () -> gallery.lasts(0));
+        gallery.topplingsIf(0, 1, 1, 40);
+        Checks.due("25 again " + rows, lasts, () -> gallery.lastsByToppling(0));
     }
 
     private static void lasting() {

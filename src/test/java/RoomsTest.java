@@ -1,3 +1,5 @@
+import java.util.stream.IntStream;
+
 /** Promises 1 to 13: a new object, rooms, legs and ways. */
 public final class RoomsTest {
     public static void main(String[] args) {
@@ -16,11 +18,7 @@ public final class RoomsTest {
     }
 
     private static AvalancheGallery withRooms(int count) {
-        AvalancheGallery gallery = new AvalancheGallery();
-        for (int room = 0; room < count; room++) {
-            gallery.addRoom(room);
-        }
-        return gallery;
+        return Checks.withRooms(IntStream.range(0, count).toArray());
     }
 
     private static void newObject() {

@@ -13,17 +13,13 @@ public final class UndoTest {
         saveAndRestore();
         untouchedBySaving();
         readdedExhibit();
+        overwrittenLoans();
         Checks.finish("UndoTest");
     }
 
     private static AvalancheGallery prepared() {
-        AvalancheGallery gallery = new AvalancheGallery();
-        gallery.addRoom(5);
-        gallery.addRoom(0);
-        gallery.setLeg(0, 1, 5, 5);
-        gallery.addExhibit(0, 1);
+        AvalancheGallery gallery = Checks.prepared();
         gallery.drop(0, 1, 1, 30);
-        gallery.ask(0, 30, 31, 5);
         return gallery;
     }
 
@@ -174,13 +170,7 @@ public final class UndoTest {
 
     private static void untouchedByUndo() {
         AvalancheGallery gallery = prepared();
-        gallery.removeLeg(0, 1);
-        gallery.writePile(0);
-        Checks.refused("31 no way", () -> gallery.send(0, 1));
-        Checks.feed(gallery, "day");
-        Checks.argument("54 malformed", gallery::execute);
-        Checks.feed(gallery, "day 1;day 0");
-        Checks.refused("54 fails", gallery::execute);
+        leaveTraces(gallery);
         Checks.feed(gallery, "day");
         for (int left = 6; left >= 0; left--) {
             int count = left;
@@ -188,6 +178,16 @@ public final class UndoTest {
         }
         dueKept(gallery);
         Checks.due("53 the buffer", 4, () -> gallery.feed(' '));
+    }
+
+    private static void leaveTraces(AvalancheGallery gallery) {
+        gallery.removeLeg(0, 1);
+        gallery.writePile(0);
+        Checks.refused("31 no way", () -> gallery.send(0, 1));
+        Checks.feed(gallery, "day");
+        Checks.argument("54 malformed", gallery::execute);
+        Checks.feed(gallery, "day 1;day 0");
+        Checks.refused("54 fails", gallery::execute);
     }
 
     private static void dueKept(AvalancheGallery gallery) {
@@ -230,13 +230,7 @@ public final class UndoTest {
     private static void untouchedBySaving() {
         AvalancheGallery gallery = prepared();
         Checks.due("59 save", 1, gallery::save);
-        gallery.removeLeg(0, 1);
-        gallery.writePile(0);
-        Checks.refused("31 no way", () -> gallery.send(0, 1));
-        Checks.feed(gallery, "day");
-        Checks.argument("54 malformed", gallery::execute);
-        Checks.feed(gallery, "day 1;day 0");
-        Checks.refused("54 fails", gallery::execute);
+        leaveTraces(gallery);
         Checks.feed(gallery, "day 7");
         Checks.due("60 restore", 1, gallery::restore);
         dueKept(gallery);
@@ -262,6 +256,25 @@ public final class UndoTest {
         gallery.undo();
         gallery.addExhibit(0, 0);
         Checks.due("57 an empty one", view(withOneExhibit()), () -> view(gallery));
+    }
+
+    // The later loan stands where the earlier one stood; undo must bring back its days and its fee.
+    private static void overwrittenLoans() {
+        AvalancheGallery gallery = withOneExhibit();
+        gallery.ask(0, 98, 99, 50);
+        gallery.takeBest(0);
+        gallery.ask(0, 0, 3, 7);
+        Checks.due("41 the later one", 7, () -> gallery.bestFees(0));
+        gallery.undo();
+        Checks.due("43 day 99", true, () -> gallery.isLent(0, 99));
+        gallery.undo();
+        Checks.due("43 no longer", false, () -> gallery.isLent(0, 98));
+        Checks.due("43 no longer", false, () -> gallery.isLent(0, 99));
+        Checks.due("41 the earlier one", 50, () -> gallery.bestFees(0));
+        gallery.takeBest(0);
+        Checks.due("43 its first day", true, () -> gallery.isLent(0, 98));
+        Checks.due("43 its last day", true, () -> gallery.isLent(0, 99));
+        Checks.due("43 not the other's", false, () -> gallery.isLent(0, 0));
     }
 
     private static AvalancheGallery withOneExhibit() {
