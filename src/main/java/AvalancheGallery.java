@@ -923,13 +923,24 @@ public final class AvalancheGallery {
         }
 
         int bestChoice() {
+            int hindered = hinderedLoans();
             int best = 0;
             for (int choice = 1; choice < 1 << asked; choice++) {
-                if (isAllowed(choice) && isBetter(choice, best)) {
+                if ((choice & hindered) == 0 && isApart(choice) && isBetter(choice, best)) {
                     best = choice;
                 }
             }
             return best;
+        }
+
+        private int hinderedLoans() {
+            int hindered = 0;
+            for (int loan = 0; loan < asked; loan++) {
+                if (!isFree(loan)) {
+                    hindered |= 1 << loan;
+                }
+            }
+            return hindered;
         }
 
         int feesOf(int choice) {
@@ -956,9 +967,9 @@ public final class AvalancheGallery {
             return (one & firstDiffering) != 0;
         }
 
-        private boolean isAllowed(int choice) {
+        private boolean isApart(int choice) {
             for (int loan = 0; loan < asked; loan++) {
-                if (contains(choice, loan) && (!isFree(loan) || meetsEarlier(choice, loan))) {
+                if (contains(choice, loan) && meetsEarlier(choice, loan)) {
                     return false;
                 }
             }
