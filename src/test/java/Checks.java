@@ -2,12 +2,19 @@
 final class Checks {
     private static int checked = 0;
     private static int wrong = 0;
+    // The sentence of the document that the checks are about, or an empty text.
+    private static String sentence = "";
 
     private Checks() {
     }
 
     interface Call {
         Object answer();
+    }
+
+    /** Tells which sentence of the document the next checks are about. */
+    static void about(String words) {
+        sentence = words;
     }
 
     /** What a call answers, or "throws" and the name of the exception that it throws. */
@@ -25,6 +32,7 @@ final class Checks {
         if (!got.equals(String.valueOf(wanted))) {
             wrong++;
             System.out.println(what + " answered " + got + ", due is " + wanted);
+            System.out.print(sentence.isEmpty() ? "" : "    " + sentence + "\n");
         }
     }
 
@@ -67,6 +75,19 @@ final class Checks {
         for (int exhibit = 0; exhibit < count; exhibit++) {
             gallery.addExhibit(0, limit);
         }
+        return gallery;
+    }
+
+    /** A gallery with one exhibit whose rows are the words of the text, in a room of warmth 9 with the limit 5. */
+    static AvalancheGallery withPile(String rows) {
+        AvalancheGallery gallery = withExhibits(1, 5, 9, 0);
+        for (int place = 0; place < 16; place++) {
+            int grains = rows.charAt(place / 4 * 5 + place % 4) - '0';
+            if (grains > 0) {
+                gallery.drop(0, place % 4, place / 4, grains);
+            }
+        }
+        due("the pile itself", rows, () -> pileOf(gallery, 0));
         return gallery;
     }
 

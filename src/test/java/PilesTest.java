@@ -18,19 +18,6 @@ public final class PilesTest {
         return Checks.withExhibits(count, 5, 9, 0);
     }
 
-    /** A gallery with one exhibit whose rows are the words of the text. */
-    private static AvalancheGallery withPile(String rows) {
-        AvalancheGallery gallery = withExhibits(1);
-        for (int place = 0; place < 16; place++) {
-            int grains = rows.charAt(place / 4 * 5 + place % 4) - '0';
-            if (grains > 0) {
-                gallery.drop(0, place % 4, place / 4, grains);
-            }
-        }
-        Checks.due("the pile itself", rows, () -> Checks.pileOf(gallery, 0));
-        return gallery;
-    }
-
     private static void addExhibit() {
         AvalancheGallery gallery = withExhibits(0);
         Checks.index("14 no room 2", () -> gallery.addExhibit(2, 0));
@@ -97,7 +84,7 @@ public final class PilesTest {
     }
 
     private static void topplingsIf() {
-        AvalancheGallery gallery = withPile("3333/3333/3333/3333");
+        AvalancheGallery gallery = Checks.withPile("3333/3333/3333/3333");
         int changes = gallery.undoCount();
         for (int place = 0; place < 16; place++) {
             int x = place % 4;
@@ -108,7 +95,7 @@ public final class PilesTest {
                 Checks.due("18 as 17", byPlaces, () -> gallery.topplingsIfByRounds(0, x, y, number));
             }
         }
-        Checks.due("17 in a place that has room", 0, () -> withPile("0333/3333/3333/3333").topplingsIf(0, 0, 0, 3));
+        Checks.due("17 in a place that has room", 0, () -> Checks.withPile("0333/3333/3333/3333").topplingsIf(0, 0, 0, 3));
         Checks.due("17 nothing dropped", 48, () -> gallery.grains(0));
         Checks.due("17 the pile stays", "3333/3333/3333/3333", () -> Checks.pileOf(gallery, 0));
         Checks.due("17 no change", changes, gallery::undoCount);
@@ -118,12 +105,12 @@ public final class PilesTest {
         Checks.due("18 three grains", 0, () -> withExhibits(1).topplingsIfByRounds(0, 0, 0, 3));
         Checks.due("17 eight grains", 2, () -> withExhibits(1).topplingsIf(0, 0, 0, 8));
         Checks.due("18 eight grains", 2, () -> withExhibits(1).topplingsIfByRounds(0, 0, 0, 8));
-        Checks.due("17 a row", 2, () -> withPile("0330/0000/0000/0000").topplingsIf(0, 1, 0, 1));
-        Checks.due("18 a row", 2, () -> withPile("0330/0000/0000/0000").topplingsIfByRounds(0, 1, 0, 1));
+        Checks.due("17 a row", 2, () -> Checks.withPile("0330/0000/0000/0000").topplingsIf(0, 1, 0, 1));
+        Checks.due("18 a row", 2, () -> Checks.withPile("0330/0000/0000/0000").topplingsIfByRounds(0, 1, 0, 1));
     }
 
     private static void grainsAt() {
-        AvalancheGallery gallery = withPile("0120/3333/0000/1000");
+        AvalancheGallery gallery = Checks.withPile("0120/3333/0000/1000");
         Checks.due("22 x 1, y 0", 1, () -> gallery.grainsAt(0, 1, 0));
         Checks.due("22 x 0, y 1", 3, () -> gallery.grainsAt(0, 0, 1));
         Checks.due("22 x 0, y 3", 1, () -> gallery.grainsAt(0, 0, 3));
@@ -155,7 +142,7 @@ public final class PilesTest {
     }
 
     private static void dueLasting(String rows, boolean lasts) {
-        AvalancheGallery gallery = withPile(rows);
+        AvalancheGallery gallery = Checks.withPile(rows);
         Checks.due("24 lasts " + rows, lasts, () -> gallery.lasts(0));
         Checks.due("25 lastsByToppling " + rows, lasts, () -> gallery.lastsByToppling(0));
         Checks.due("25 the pile stays", rows, () -> Checks.pileOf(gallery, 0));
@@ -181,7 +168,7 @@ public final class PilesTest {
     }
 
     private static void dueSlope(String rows, int length) {
-        AvalancheGallery gallery = withPile(rows);
+        AvalancheGallery gallery = Checks.withPile(rows);
         Checks.due("26 longestSlope " + rows, length, () -> gallery.longestSlope(0));
         Checks.due("27 longestSlopeByGrains " + rows, length, () -> gallery.longestSlopeByGrains(0));
     }

@@ -1,0 +1,9 @@
+/** Each sentence of the document that names an edge has a test of its own; a failing line tells the sentence. */
+public final class BoundsTest {
+    public static void main(String[] args) {
+        RoomBounds.run();
+        PileBounds.run();
+        // Document.dueTested();
+        Checks.finish("BoundsTest");
+    }
+}
