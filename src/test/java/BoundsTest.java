@@ -3,6 +3,7 @@ public final class BoundsTest {
     public static void main(String[] args) {
         RoomBounds.run();
         PileBounds.run();
+        CourierBounds.run();
         // Document.dueTested();
         Checks.finish("BoundsTest");
     }
