@@ -4,7 +4,11 @@ public final class BoundsTest {
         RoomBounds.run();
         PileBounds.run();
         CourierBounds.run();
-        // Document.dueTested();
+        LoanBounds.run();
+        OutputBounds.run();
+        CommandBounds.run();
+        UndoBounds.run();
+        Document.dueTested();
         Checks.finish("BoundsTest");
     }
 }

@@ -79,10 +79,11 @@ final class Document {
         });
     }
 
-    // One word alone names what follows, and a line that begins with "Returns" says its call's first line again.
+    // One or two words name what follows; a line such as "Returns the warmth." says its call's first line again.
     private static boolean tellsAnEdge(String heading, String sentence) {
         boolean isTerm = heading.equals("Terms") && !sentence.startsWith("Ahead of") && !sentence.endsWith(":");
-        boolean isPromise = heading.startsWith("Promise ") && !sentence.startsWith("Returns the number of ");
+        boolean isPromise = heading.startsWith("Promise ") && !sentence.matches("Returns the number of .*")
+                && !sentence.matches("Returns the [a-z]+( of the [a-z]+)?\\.");
         return (isTerm || isPromise) && sentence.matches(".+ .+ .+");
     }
 }

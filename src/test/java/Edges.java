@@ -109,7 +109,7 @@ final class Edges {
         looks.add(Edges::kept);
         looks.add(Edges::afterText);
         looks.add(Edges::afterTaking);
-        looks.add(gallery -> gallery.restore() + Galleries.view(gallery) + gallery.undoCount());
+        looks.add(Edges::afterRestore);
         for (int steps = 1; steps <= 8; steps++) {
             int count = steps;
             looks.add(gallery -> afterUndo(gallery, count));
@@ -150,7 +150,12 @@ final class Edges {
         return answers.append(Galleries.view(gallery)).toString();
     }
 
-    private static String afterUndo(AvalancheGallery gallery, int steps) {
+    static String afterRestore(AvalancheGallery gallery) {
+        return Checks.answerOf(gallery::restore) + " " + Galleries.view(gallery) + gallery.undoCount();
+    }
+
+    /** What the undoing of as many changes answers, and what there is afterwards. */
+    static String afterUndo(AvalancheGallery gallery, int steps) {
         StringBuilder answers = new StringBuilder();
         for (int step = 0; step < steps; step++) {
             answers.append(Checks.answerOf(gallery::undo)).append(' ');
