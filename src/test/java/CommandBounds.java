@@ -91,7 +91,8 @@ final class CommandBounds {
         Checks.due("the text", 7, gallery::day);
         // Only the lower eight bits of these are those of the digit 1 and of a semicolon.
         for (char character : new char[] {'1' + 256, ';' + 256, '1' + 0xff00, '1' + 128}) {
-            Checks.due("no digit", "throws " + Edges.ARGUMENT, () -> execute(new AvalancheGallery(), "day " + character));
+            AvalancheGallery other = new AvalancheGallery();
+            Checks.due("no digit", "throws " + Edges.ARGUMENT, () -> execute(other, "day " + character));
         }
     }
 
@@ -139,12 +140,12 @@ final class CommandBounds {
         }
     }
 
-    /** A call and the text that does the same. */
+    /** A call and the text that does the same, whatever numbers an earlier text had. */
     private static void dueSame(String text, Edges.Act call) {
         Galleries.Recipe[] recipes = {Galleries.BARE, Galleries.APART, Galleries.LADEN, Galleries.FULL};
         for (Galleries.Recipe recipe : recipes) {
-            AvalancheGallery called = emptied(recipe).make();
-            AvalancheGallery told = emptied(recipe).make();
+            AvalancheGallery called = refused(recipe, "ask 9 98-97+96").make();
+            AvalancheGallery told = refused(recipe, "ask 9 98-97+96").make();
             boolean throwing = Checks.answerOf(() -> call.on(called)).startsWith("throws");
             String due = throwing ? "throws " + Edges.REFUSED : "1";
             Checks.due(text, due, () -> execute(told, text));
@@ -210,7 +211,8 @@ final class CommandBounds {
     private static void commandByCommand() {
         Document.promise(54, "Executes the text in the input buffer, command by command, either all commands or none");
         AvalancheGallery gallery = new AvalancheGallery();
-        Checks.due("each needs the one before", "5", () -> execute(gallery, "room 9;room 0;leg 0-1 5*7;pile 0*6;drop 0 1,1+11"));
+        Checks.due("each needs the one before", "5",
+                () -> execute(gallery, "room 9;room 0;leg 0-1 5*7;pile 0*6;drop 0 1,1+11"));
         Checks.due("they go on", "4", () -> execute(gallery, "send 0>1;send 0>0;day 1;ask 0 1-2+3"));
         Checks.due("one on each leg, then three", 5, () -> gallery.melted(0));
         Checks.due("taken before the day", "2", () -> execute(gallery, "take 0;day 2"));
@@ -273,8 +275,8 @@ final class CommandBounds {
 
     private static void failing() {
         Document.promise(54, "Throws `UnsupportedOperationException`");
-        for (String text : new String[] {"day 0", "leg 0-0 5*5", "leg 0-6 5*5", "leg 1-0 0*5", "pile 6*0", "drop 0 4,0+1",
-            "drop 5 0,0+1", "drop 0 0,0+41", "send 0>6", "ask 0 2-1+1", "take 5"}) {
+        for (String text : new String[] {"day 0", "leg 0-0 5*5", "leg 0-6 5*5", "leg 1-0 0*5", "pile 6*0",
+            "drop 0 4,0+1", "drop 5 0,0+1", "drop 0 0,0+41", "send 0>6", "ask 0 2-1+1", "take 5"}) {
             dueRefused(text, Edges.REFUSED, Galleries.LADEN);
             dueRefused("day 1;" + text, Edges.REFUSED, Galleries.FULL);
         }

@@ -118,7 +118,8 @@ final class Galleries {
 
     /** Everything that changes can change, as a text. */
     static String view(AvalancheGallery gallery) {
-        StringBuilder view = new StringBuilder("day ").append(gallery.day()).append(" income ").append(gallery.income());
+        StringBuilder view = new StringBuilder("day ").append(gallery.day());
+        view.append(" income ").append(gallery.income());
         viewRooms(gallery, view);
         for (int exhibit = 0; exhibit < gallery.exhibitCount(); exhibit++) {
             viewExhibit(gallery, exhibit, view);

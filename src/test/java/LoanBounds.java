@@ -117,7 +117,8 @@ final class LoanBounds {
         Document.promise(38, "Returns the fees that are received");
         Checks.due("one loan of the least fee", 1, () -> withLoans(0, 0, 1).takeBest(0));
         Checks.due("one loan of the greatest fee", 99, () -> withLoans(0, 99, 99).takeBest(0));
-        AvalancheGallery most = withLoans(0, 0, 99, 1, 1, 99, 2, 2, 99, 3, 3, 99, 4, 4, 99, 5, 5, 99, 6, 6, 99, 99, 99, 99);
+        AvalancheGallery most = withLoans(0, 0, 99, 1, 1, 99, 2, 2, 99, 3, 3, 99, 4, 4, 99, 5, 5, 99, 6, 6, 99,
+                99, 99, 99);
         dueFees(most, 792);
         Document.promise(38, "Takes the best choice of loans of an exhibit");
         Checks.due("eight loans", 792, () -> most.takeBest(0));

@@ -150,7 +150,7 @@ final class PileBounds {
         }
         Checks.due("nothing is dropped", before, () -> Galleries.view(gallery) + gallery.undoCount());
         Checks.due("a place that is full", 1, () -> act.on(Checks.withPile("0000/0000/0000/0003"), 0, 3, 3, 1));
-        Checks.due("a place that has room for one", 0, () -> act.on(Checks.withPile("0000/0000/0000/0002"), 0, 3, 3, 1));
+        Checks.due("a place with room", 0, () -> act.on(Checks.withPile("0000/0000/0000/0002"), 0, 3, 3, 1));
         Checks.due("beside a full one", 2, () -> act.on(Checks.withPile("0000/0000/0000/0033"), 0, 3, 3, 1));
         Checks.due("beside one that is not", 1, () -> act.on(Checks.withPile("0000/0000/0000/0023"), 0, 3, 3, 1));
     }

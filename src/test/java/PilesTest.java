@@ -95,7 +95,7 @@ public final class PilesTest {
                 Checks.due("18 as 17", byPlaces, () -> gallery.topplingsIfByRounds(0, x, y, number));
             }
         }
-        Checks.due("17 in a place that has room", 0, () -> Checks.withPile("0333/3333/3333/3333").topplingsIf(0, 0, 0, 3));
+        Checks.due("17 in a place with room", 0, () -> Checks.withPile("0333/3333/3333/3333").topplingsIf(0, 0, 0, 3));
         Checks.due("17 nothing dropped", 48, () -> gallery.grains(0));
         Checks.due("17 the pile stays", "3333/3333/3333/3333", () -> Checks.pileOf(gallery, 0));
         Checks.due("17 no change", changes, gallery::undoCount);

@@ -238,7 +238,8 @@ final class RoomBounds {
             Edges.refused(what, Edges.MISSING, Galleries.APART, g -> act.on(g, pair[0], pair[1]));
         }
         AvalancheGallery gallery = row(6, 99);
-        Checks.due("a way of five legs", false, () -> Checks.answerOf(() -> act.on(gallery, 0, 5)).startsWith("throws"));
+        String answer = Checks.answerOf(() -> act.on(gallery, 0, 5));
+        Checks.due("a way of five legs: " + answer, false, () -> answer.startsWith("throws"));
         gallery.removeLeg(2, 3);
         Checks.missing("no way any more", () -> act.on(gallery, 0, 5));
         Checks.missing("nor back", () -> act.on(gallery, 3, 2));
@@ -288,6 +289,27 @@ final class RoomBounds {
         Checks.due("of 94", 94, () -> act.on(gallery, 0, 5));
         Checks.due("not over that leg", 76, () -> act.on(gallery, 1, 5));
         Checks.due("as far both ways", 57, () -> act.on(gallery, 1, 4));
+        for (int middle = 0; middle < 6; middle++) {
+            dueOver(act, middle);
+        }
+    }
+
+    // All other rooms are joined with one alone; whichever it is, the ways lead over it.
+    private static void dueOver(Edges.ActOnPair act, int middle) {
+        AvalancheGallery gallery = rooms(6);
+        for (int room = 0; room < 6; room++) {
+            if (room != middle) {
+                gallery.setLeg(middle, room, 10 + room, 0);
+            }
+        }
+        for (int one = 0; one < 6; one++) {
+            for (int other = 0; other < 6; other++) {
+                int from = one;
+                int to = other;
+                int due = one == other ? 0 : (one == middle ? 0 : 10 + one) + (other == middle ? 0 : 10 + other);
+                Checks.due(one + " to " + other + " over " + middle, due, () -> act.on(gallery, from, to));
+            }
+        }
     }
 
     private static void wayLegs() {

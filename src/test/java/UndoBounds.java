@@ -16,6 +16,7 @@ final class UndoBounds {
         changedAfterUndo();
         unaffected();
         exceptionsChangeNothing();
+        severalConditions();
         save();
         savedEverything();
         restoreRefused();
@@ -273,6 +274,36 @@ final class UndoBounds {
         Edges.refused("feed", Edges.STATE, Galleries.FULL, g -> g.feed('1'));
         Edges.refused("undo", Edges.STATE, Galleries.BARE, AvalancheGallery::undo);
         Edges.refused("restore", Edges.STATE, Galleries.BARE, AvalancheGallery::restore);
+    }
+
+    private static void severalConditions() {
+        Document.term("If several conditions for exceptions hold, the one that is listed first decides");
+        Edges.refused("addRoom", Edges.ARGUMENT, Galleries.FULL, g -> g.addRoom(10));
+        Edges.refused("setWarmth", Edges.INDEX, Galleries.FULL, g -> g.setWarmth(6, 10));
+        Edges.refused("setLeg", Edges.INDEX, Galleries.FULL, g -> g.setLeg(6, 6, 0, 10));
+        Edges.refused("setLeg, the other one", Edges.INDEX, Galleries.FULL, g -> g.setLeg(0, -1, 100, -1));
+        Edges.refused("removeLeg", Edges.INDEX, Galleries.APART, g -> g.removeLeg(2, 4));
+        Edges.refused("legMinutes", Edges.INDEX, Galleries.APART, g -> g.legMinutes(-1, 2));
+        Edges.refused("legWarmth", Edges.INDEX, Galleries.APART, g -> g.legWarmth(2, 4));
+        Edges.refused("minutes", Edges.INDEX, Galleries.APART, g -> g.minutes(2, 4));
+        Edges.refused("minutesByTable", Edges.INDEX, Galleries.APART, g -> g.minutesByTable(4, 2));
+        Edges.refused("wayLegs", Edges.INDEX, Galleries.APART, g -> g.wayLegs(2, -1));
+        Edges.refused("wayRoom", Edges.INDEX, Galleries.APART, g -> g.wayRoom(4, 2, 9));
+        Edges.refused("addExhibit, all", Edges.INDEX, Galleries.FULL, g -> g.addExhibit(6, 10));
+        Edges.refused("addExhibit, no limit", Edges.ARGUMENT, Galleries.FULL, g -> g.addExhibit(0, 10));
+        Edges.refused("addExhibit, no room", Edges.INDEX, Galleries.FULL, g -> g.addExhibit(-1, 0));
+        Edges.refused("setLimit", Edges.INDEX, Galleries.FULL, g -> g.setLimit(5, 10));
+        Edges.refused("drop", Edges.INDEX, Galleries.FULL, g -> g.drop(5, 4, 4, 0));
+        Edges.refused("topplingsIf", Edges.INDEX, Galleries.FULL, g -> g.topplingsIf(-1, -1, 0, 41));
+        Edges.refused("topplingsIfByRounds", Edges.INDEX, Galleries.FULL, g -> g.topplingsIfByRounds(5, 0, 4, 0));
+        Edges.refused("grainsAt", Edges.INDEX, Galleries.FULL, g -> g.grainsAt(5, 4, -1));
+        Edges.refused("meltIfSent", Edges.INDEX, Galleries.APART, g -> g.meltIfSent(0, 4));
+        Edges.refused("leastPassed", Edges.INDEX, Galleries.APART, g -> g.leastPassed(2, 3));
+        Edges.refused("leastPassedByRounds", Edges.INDEX, Galleries.APART, g -> g.leastPassedByRounds(2, 4));
+        Edges.refused("ask, all", Edges.INDEX, Galleries.FULL, g -> g.ask(5, 9, 8, 0));
+        Edges.refused("ask, no fee", Edges.ARGUMENT, Galleries.FULL, g -> g.ask(0, 0, 0, 100));
+        Edges.refused("takeBest", Edges.INDEX, Galleries.APART, g -> g.takeBest(2));
+        Edges.refused("writeWay", Edges.INDEX, Galleries.APART, g -> g.writeWay(2, 4));
     }
 
     private static void save() {
